@@ -1,4 +1,7 @@
+import java.util.ArrayList;
 import java.util.Arrays;
+import java.util.List;
+import java.util.Set;
 
 /**
  * The same calls to an EarleyChart and to a PlainChart, whose answers must agree. Grammars, inputs
@@ -8,6 +11,8 @@ public final class EarleyChartOracleTest {
     private static final int GRAMMARS = 6000;
     private static final int CALL_RUNS = 1500;
     private static final int CALLS = 512;
+    private static final Set<String> CHANGING =
+            Set.of("addProd", "addRhs", "feed", "extract", "clear", "erase");
     private static final int[] FAR = {Integer.MIN_VALUE, -100, -2, -1, 6, 7, 9, 50, 99, 106, 200,
         1000, 8000, Integer.MAX_VALUE};
 
@@ -17,8 +22,12 @@ public final class EarleyChartOracleTest {
     private final String name;
     private final int variables;
     private final int tokens;
-    private final EarleyChart chart;
     private final PlainChart plain;
+    private EarleyChart chart;
+    /** How many calls the chart has had, and those of them that a new one needs to be like it. */
+    private int calls = 0;
+    private final List<String> changes = new ArrayList<>();
+    private final List<int[]> changesGiven = new ArrayList<>();
 
     private EarleyChartOracleTest(String name, int variables, int tokens) {
         this.name = name;
@@ -187,6 +196,14 @@ public final class EarleyChartOracleTest {
     private void same(String call, int... given) {
         int[] a = {0, 0, 0};
         System.arraycopy(given, 0, a, 0, given.length);
+        if (calls == CALLS) {
+            remake();
+        }
+        calls++;
+        if (CHANGING.contains(call)) {
+            changes.add(call);
+            changesGiven.add(a);
+        }
         String got = outcome(call, a, true);
         String want = outcome(call, a, false);
         if (!got.equals(want)) {
@@ -194,6 +211,15 @@ public final class EarleyChartOracleTest {
             System.out.println(name + ": " + call + Arrays.toString(given) + " answered " + got
                     + ", due is " + want);
         }
+    }
+
+    /** Nothing is promised after the 512th call, so a new chart takes the old one's place. */
+    private void remake() {
+        chart = new EarleyChart(variables, tokens);
+        for (int i = 0; i < changes.size(); i++) {
+            outcome(changes.get(i), changesGiven.get(i), true);
+        }
+        calls = changes.size();
     }
 
     private String outcome(String call, int[] a, boolean real) {

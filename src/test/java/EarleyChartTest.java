@@ -1,23 +1,5 @@
-import java.util.ArrayList;
-import java.util.Arrays;
-import java.util.List;
-
 /** Each promise of the document, by name: ordinary inputs, the edges, and wrong inputs. */
-public final class EarleyChartTest {
-    /** One call of the class under test; a boolean answer counts 1 or 0. */
-    private interface Call {
-        long answer();
-    }
-
-    private static final String STATE = "IllegalStateException";
-    private static final String ARGUMENT = "IllegalArgumentException";
-    private static final String INDEX = "IndexOutOfBoundsException";
-    private static final String ELEMENT = "NoSuchElementException";
-    private static final int[] FAR = {Integer.MIN_VALUE, -1000, -1, Integer.MAX_VALUE};
-
-    private static int wrong = 0;
-    private static String promise = "";
-
+public final class EarleyChartTest extends ChartChecks {
     public static void main(String[] args) {
         newObject();
         addProd();
@@ -39,147 +21,11 @@ public final class EarleyChartTest {
         stepsOfRoundProductions();
         nullable();
         fed();
-        throwingChangesNothing();
-        System.out.println(wrong == 0 ? "all promises hold" : wrong + " answers are wrong");
-        if (wrong != 0) {
-            System.exit(1);
-        }
-    }
-
-    private static void report(String what, String got, String want) {
-        if (!got.equals(want)) {
-            wrong++;
-            System.out.println(promise + ": " + what + " gave " + got + ", due is " + want);
-        }
-    }
-
-    private static String outcome(Call call) {
-        try {
-            return String.valueOf(call.answer());
-        } catch (RuntimeException e) {
-            return e.getClass().getSimpleName();
-        }
-    }
-
-    private static void due(String what, Call call, long want) {
-        report(what, outcome(call), String.valueOf(want));
-    }
-
-    private static void dueThrow(String what, Call call, String want) {
-        report(what, outcome(call), want);
-    }
-
-    private static void dueTrue(String what, boolean got) {
-        report(what, String.valueOf(got), "true");
-    }
-
-    private static void dueFalse(String what, boolean got) {
-        report(what, String.valueOf(got), "false");
-    }
-
-    /** A chart with 6 variables and 6 tokens; each row is a left side and then its right side. */
-    private static EarleyChart chart(int[]... productions) {
-        EarleyChart chart = new EarleyChart(6, 6);
-        addAll(chart, productions);
-        return chart;
-    }
-
-    private static void addAll(EarleyChart chart, int[]... productions) {
-        for (int[] production : productions) {
-            chart.addProd(production[0]);
-            for (int i = 1; i < production.length; i++) {
-                chart.addRhs(production[i]);
-            }
-        }
-    }
-
-    private static int[] p(int... symbols) {
-        return symbols;
-    }
-
-    private static EarleyChart feedAll(EarleyChart chart, int... tokens) {
-        for (int token : tokens) {
-            chart.feed(token);
-        }
-        return chart;
-    }
-
-    private static void dueItems(EarleyChart chart, int k, int... want) {
-        List<Integer> got = new ArrayList<>();
-        for (int i = 0; i < chart.items(k); i++) {
-            got.add(chart.item(k, i));
-        }
-        report("items of set " + k, got.toString(), Arrays.toString(want));
-    }
-
-    private static void dueWitness(EarleyChart chart, int... want) {
-        due("extract", () -> chart.extract(), want.length);
-        report("witness", witness(chart), Arrays.toString(want));
-    }
-
-    private static String witness(EarleyChart chart) {
-        List<Integer> got = new ArrayList<>();
-        for (int i = 0; i < chart.witCount(); i++) {
-            got.add(chart.wit(i));
-        }
-        return got.toString();
-    }
-
-    /** Everything that the calls which change nothing can tell of a chart. */
-    private static String state(EarleyChart chart) {
-        StringBuilder text = new StringBuilder();
-        text.append(chart.fed()).append(chart.alive()).append(chart.accepts());
-        for (int k = 0; k <= chart.fed(); k++) {
-            text.append('|');
-            for (int i = 0; i < chart.items(k); i++) {
-                text.append(chart.item(k, i)).append(' ');
-            }
-        }
-        for (int symbol = 0; symbol < 110; symbol++) {
-            int wanted = symbol;
-            for (int i = 0; i <= chart.fed(); i++) {
-                for (int j = i; j <= chart.fed(); j++) {
-                    int from = i;
-                    int to = j;
-                    text.append(outcome(() -> chart.steps(wanted, from, to))).append(',');
-                }
-            }
-            text.append(outcome(() -> chart.nullable(wanted) ? 1 : 0)).append(';');
-        }
-        return text.append(witness(chart)).toString();
-    }
-
-    // S -> S a S | b
-    private static EarleyChart ambiguous() {
-        return chart(p(0, 0, 100, 0), p(0, 101));
-    }
-
-    private static int countVariables(EarleyChart chart) {
-        int count = 0;
-        while (count < 100 && outcome(counted(chart, count)).equals("0")) {
-            count++;
-        }
-        return count;
-    }
-
-    private static Call counted(EarleyChart chart, int variable) {
-        return () -> chart.nullable(variable) ? 1 : 0;
-    }
-
-    private static int countTokens(EarleyChart chart) {
-        int count = 0;
-        while (count < 100 && outcome(tokenSteps(chart, 100 + count)).equals("-1")) {
-            count++;
-        }
-        return count;
-    }
-
-    private static Call tokenSteps(EarleyChart chart, int token) {
-        return () -> chart.steps(token, 0, 0);
+        end("all promises hold");
     }
 
     private static void newObject() {
-        promise = "1 new object";
+        promise("1 new object");
         int[] asked = {Integer.MIN_VALUE, -1, 0, 1, 2, 3, 4, 5, 6, 7, 9, Integer.MAX_VALUE};
         for (int a : asked) {
             int due = a >= 1 && a <= 6 ? a : 4;
@@ -200,7 +46,7 @@ public final class EarleyChartTest {
     }
 
     private static void addProd() {
-        promise = "2 addProd";
+        promise("2 addProd");
         EarleyChart chart = new EarleyChart(3, 2);
         for (int wrongVariable : new int[] {-1, 3, 99, 100, 101, Integer.MIN_VALUE}) {
             dueThrow("a wrong variable", () -> chart.addProd(wrongVariable), ARGUMENT);
@@ -226,7 +72,7 @@ public final class EarleyChartTest {
     }
 
     private static void addRhs() {
-        promise = "3 addRhs";
+        promise("3 addRhs");
         EarleyChart chart = new EarleyChart(2, 3);
         dueThrow("no production", () -> chart.addRhs(0), STATE);
         dueThrow("no production, wrong", () -> chart.addRhs(50), STATE);
@@ -266,7 +112,7 @@ public final class EarleyChartTest {
     }
 
     private static void feed() {
-        promise = "4 feed";
+        promise("4 feed");
         EarleyChart none = new EarleyChart(2, 2);
         dueThrow("no production", () -> none.feed(100), STATE);
         dueThrow("no production, wrong", () -> none.feed(0), STATE);
@@ -293,7 +139,7 @@ public final class EarleyChartTest {
     }
 
     private static void alive() {
-        promise = "5 alive";
+        promise("5 alive");
         EarleyChart chart = new EarleyChart(2, 2);
         dueFalse("no productions", chart.alive());
         chart.addProd(1);
@@ -313,7 +159,7 @@ public final class EarleyChartTest {
     }
 
     private static void accepts() {
-        promise = "6 accepts";
+        promise("6 accepts");
         EarleyChart chart = ambiguous();
         dueFalse("nothing", chart.accepts());
         for (int i = 0; i < 8; i++) {
@@ -340,7 +186,7 @@ public final class EarleyChartTest {
     }
 
     private static void extract() {
-        promise = "7 extract";
+        promise("7 extract");
         EarleyChart none = new EarleyChart(1, 1);
         dueThrow("no productions", () -> none.extract(), ELEMENT);
         EarleyChart chart = ambiguous();
@@ -360,7 +206,7 @@ public final class EarleyChartTest {
     }
 
     private static void extractChoosesTheLowestAndTheShortest() {
-        promise = "7 extract, the choice";
+        promise("7 extract, the choice");
         // Two ways of as many steps: the lower production. A longer way of a lower one does not count.
         dueWitness(chart(p(0, 1), p(0, 2), p(1), p(2)), 0, 2);
         dueWitness(chart(p(0, 1), p(0, 2), p(2), p(1, 2)), 1, 2);
@@ -378,7 +224,7 @@ public final class EarleyChartTest {
     }
 
     private static void extractLong() {
-        promise = "7 extract, long";
+        promise("7 extract, long");
         // Five variables of three each under S -> a S B B: 121 steps for each B.
         EarleyChart chart = chart(p(0, 100, 0, 1, 1), p(0), p(1, 2, 2, 2), p(2, 3, 3, 3),
                 p(3, 4, 4, 4), p(4, 5, 5, 5), p(5));
@@ -403,7 +249,7 @@ public final class EarleyChartTest {
     }
 
     private static void witCount() {
-        promise = "8 witCount";
+        promise("8 witCount");
         EarleyChart chart = feedAll(ambiguous(), 101, 100, 101);
         due("before extract", () -> chart.witCount(), 0);
         chart.extract();
@@ -417,7 +263,7 @@ public final class EarleyChartTest {
     }
 
     private static void wit() {
-        promise = "9 wit";
+        promise("9 wit");
         EarleyChart chart = feedAll(ambiguous(), 101, 100, 101);
         dueThrow("before extract", () -> chart.wit(0), INDEX);
         chart.extract();
@@ -433,16 +279,13 @@ public final class EarleyChartTest {
     }
 
     private static void clear() {
-        promise = "10 clear";
+        promise("10 clear");
         EarleyChart chart = feedAll(ambiguous(), 101, 100, 101);
-        String whole = state(feedAll(ambiguous(), 101));
         chart.extract();
         due("clear", () -> chart.clear(), 3);
-        report("state", state(chart), state(ambiguous()));
         due("clear again", () -> chart.clear(), 0);
-        feedAll(chart, 101);
-        report("state of another input", state(chart), whole);
-        chart.clear();
+        dueSame("after clear", () -> cleared(), () -> ambiguous());
+        dueSame("another input", () -> feedAll(cleared(), 101), () -> feedAll(ambiguous(), 101));
         due("the grammar goes on", () -> chart.addRhs(102), 2);
         due("its number", () -> chart.addProd(0), 2);
         EarleyChart told = chart(p(0));
@@ -454,12 +297,24 @@ public final class EarleyChartTest {
         due("feed after it", () -> full.feed(100), 4);
     }
 
+    private static EarleyChart cleared() {
+        EarleyChart chart = extracted(feedAll(ambiguous(), 101, 100, 101));
+        chart.clear();
+        return chart;
+    }
+
+    private static EarleyChart erased() {
+        EarleyChart chart = extracted(feedAll(ambiguous(), 101, 100, 101));
+        chart.erase();
+        return chart;
+    }
+
     private static void erase() {
-        promise = "11 erase";
+        promise("11 erase");
         EarleyChart chart = feedAll(ambiguous(), 101, 100, 101);
         chart.extract();
         due("erase", () -> chart.erase(), 2);
-        report("state", state(chart), state(new EarleyChart(6, 6)));
+        dueSame("after erase", () -> erased(), () -> new EarleyChart(6, 6));
         due("erase again", () -> chart.erase(), 0);
         dueThrow("feed", () -> chart.feed(100), STATE);
         dueThrow("addRhs", () -> chart.addRhs(100), STATE);
@@ -482,7 +337,7 @@ public final class EarleyChartTest {
     }
 
     private static void items() {
-        promise = "12 items";
+        promise("12 items");
         EarleyChart none = new EarleyChart(2, 2);
         due("items(0) without productions", () -> none.items(0), 0);
         dueThrow("items(1) without productions", () -> none.items(1), INDEX);
@@ -501,7 +356,7 @@ public final class EarleyChartTest {
     }
 
     private static void item() {
-        promise = "13 item";
+        promise("13 item");
         EarleyChart chart = feedAll(ambiguous(), 101, 100, 101, 100, 101);
         dueItems(chart, 0, 0, 1000);
         dueItems(chart, 1, 100, 1100);
@@ -522,7 +377,7 @@ public final class EarleyChartTest {
     }
 
     private static void itemsOfRoundAndEmptyProductions() {
-        promise = "12, 13 round and empty";
+        promise("12, 13 round and empty");
         dueItems(chart(p(0, 0), p(0)), 0, 0, 100, 1000);
         dueItems(chart(p(0, 0)), 0, 0);
         dueItems(chart(p(1, 2), p(2, 1), p(2)), 0, 0, 100, 1000, 1100, 2000);
@@ -537,7 +392,7 @@ public final class EarleyChartTest {
     }
 
     private static void steps() {
-        promise = "14 steps";
+        promise("14 steps");
         EarleyChart chart = new EarleyChart(3, 2);
         addAll(chart, p(0, 0, 100, 0), p(0, 101), p(1));
         for (int wrongSymbol : new int[] {-1, 3, 99, 102, Integer.MIN_VALUE, Integer.MAX_VALUE}) {
@@ -573,7 +428,7 @@ public final class EarleyChartTest {
     }
 
     private static void stepsOfRoundProductions() {
-        promise = "14 steps, round";
+        promise("14 steps, round");
         EarleyChart chart = chart(p(0, 1), p(1, 2), p(2, 3), p(3, 4), p(4, 5), p(5, 0), p(5, 100), p(5));
         feedAll(chart, 100);
         for (int variable = 0; variable < 6; variable++) {
@@ -594,7 +449,7 @@ public final class EarleyChartTest {
     }
 
     private static void nullable() {
-        promise = "15 nullable";
+        promise("15 nullable");
         EarleyChart chart = new EarleyChart(4, 2);
         addAll(chart, p(0, 1, 2), p(1), p(2, 1, 1), p(2, 100), p(3, 1, 100));
         dueTrue("0", chart.nullable(0));
@@ -616,7 +471,7 @@ public final class EarleyChartTest {
     }
 
     private static void fed() {
-        promise = "16 fed";
+        promise("16 fed");
         EarleyChart chart = chart(p(0, 100));
         due("nothing", () -> chart.fed(), 0);
         for (int i = 1; i <= 8; i++) {
@@ -630,56 +485,5 @@ public final class EarleyChartTest {
         chart.feed(100);
         chart.erase();
         due("after erase", () -> chart.fed(), 0);
-    }
-
-    private static void throwingChangesNothing() {
-        promise = "a call that throws changes nothing";
-        EarleyChart empty = new EarleyChart(6, 6);
-        throwEverything(empty);
-        EarleyChart told = chart(p(0, 1, 1, 1, 1), p(1), p(2, 2, 2, 2, 2), p(3, 3, 3, 3, 3), p(4, 4, 4, 4, 4));
-        told.extract();
-        throwEverything(told);
-        due("witCount", () -> told.witCount(), 5);
-        EarleyChart begun = feedAll(ambiguous(), 101, 100, 101);
-        begun.extract();
-        throwEverything(begun);
-        due("witCount", () -> begun.witCount(), 3);
-        EarleyChart unaccepted = feedAll(ambiguous(), 101, 100);
-        throwEverything(unaccepted);
-        dueThrow("extract", () -> unaccepted.extract(), ELEMENT);
-        EarleyChart full = feedAll(ambiguous(), 101, 100, 101, 100, 101, 100, 101, 100);
-        throwEverything(full);
-        dueThrow("feed", () -> full.feed(101), STATE);
-    }
-
-    /** Each call that throws in this state, and the state after it. */
-    private static void throwEverything(EarleyChart chart) {
-        List<Call> calls = new ArrayList<>();
-        for (int a : new int[] {-1, 6, 99, 106, Integer.MIN_VALUE, Integer.MAX_VALUE}) {
-            calls.add(() -> chart.addProd(a));
-            calls.add(() -> chart.addRhs(a));
-            calls.add(() -> chart.feed(a));
-            calls.add(() -> chart.wit(a == 6 ? 8000 : a));
-            calls.add(() -> chart.items(a == 6 ? 9 : a));
-            calls.add(() -> chart.item(a == 6 ? 9 : a, 0));
-            calls.add(() -> chart.item(0, a == 6 ? 216 : a));
-            calls.add(() -> chart.steps(a, 0, 0));
-            calls.add(() -> chart.steps(0, 0, a == 6 ? 9 : a));
-            calls.add(() -> chart.nullable(a) ? 1 : 0);
-        }
-        String before = state(chart);
-        for (Call call : calls) {
-            dueTrue("a wrong call throws", outcome(call).endsWith("Exception"));
-            report("state after a throw", state(chart), before);
-        }
-        if (!chart.accepts()) {
-            dueThrow("extract", () -> chart.extract(), ELEMENT);
-            report("state after extract", state(chart), before);
-        }
-        if (chart.fed() > 0) {
-            dueThrow("addProd", () -> chart.addProd(0), STATE);
-            dueThrow("addRhs", () -> chart.addRhs(0), STATE);
-            report("state after a refused production", state(chart), before);
-        }
     }
 }

@@ -309,6 +309,9 @@ public final class EarleyChartLimitsTest extends ChartChecks {
         dueItems(feedAll(chart(p(0, 100, 1, 101), p(1)), 100), 1, 100, 200, 1001);
         dueItems(chart(p(0, 1, 1, 1, 1), p(1)), 0, 0, 100, 200, 300, 400, 1000);
         dueItems(chart(p(0, 0), p(0)), 0, 0, 100, 1000);
+        // Production 0 is the empty one.
+        dueItems(chart(p(0), p(0, 0, 100)), 0, 0, 1000, 1100);
+        dueItems(feedAll(chart(p(0), p(0, 100, 0)), 100), 1, 1, 1001, 1100, 1200);
         dueItems(chart(p(0, 1, 2), p(1, 2, 2), p(2, 3), p(3)), 0,
                 0, 100, 200, 1000, 1100, 1200, 2000, 2100, 3000);
     }

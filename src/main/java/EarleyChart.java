@@ -187,7 +187,7 @@ public final class EarleyChart {
     private void grammarChanged() {
         witness.forget();
         sets.makeFirst();
-        table.fillUpTo(0);
+        table.fillStretch(0, 0);
     }
 
     private static boolean isVariable(int symbol) {
@@ -446,11 +446,7 @@ public final class EarleyChart {
             }
         }
 
-        private static int stretch(int from, int to) {
-            return from * PLACES + to;
-        }
-
-        private void fillStretch(int from, int to) {
+        void fillStretch(int from, int to) {
             for (int variable = 0; variable < MOST_VARIABLES; variable++) {
                 ofVariable[variable][stretch(from, to)] = NO_STEPS;
             }
@@ -460,6 +456,10 @@ public final class EarleyChart {
             for (int round = 0; lowered && round < MOST_ROUNDS; round++) {
                 lowered = lower(from, to);
             }
+        }
+
+        private static int stretch(int from, int to) {
+            return from * PLACES + to;
         }
 
         /** Downwards, since a row's steps need those of the row behind the next slot. */

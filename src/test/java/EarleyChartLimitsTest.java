@@ -15,6 +15,8 @@ public final class EarleyChartLimitsTest extends ChartChecks {
         start();
         eightTokens();
         theEighthTokenTakesPart();
+        aSetForEachPlace();
+        leastSet();
         firstSet();
         predicted();
         scanned();
@@ -26,7 +28,9 @@ public final class EarleyChartLimitsTest extends ChartChecks {
         stepsOfRow();
         stepsOfEmptyRow();
         noDerivation();
+        witnessOfTheStart();
         lowestProduction();
+        witnessOrder();
         shortestStretch();
         longestWitness();
         fiveHundredAndTwelveCalls();
@@ -265,6 +269,33 @@ public final class EarleyChartLimitsTest extends ChartChecks {
         due("steps of the other", () -> other.steps(102, 7, 8), 0);
     }
 
+    private static void aSetForEachPlace() {
+        promise("Terms, SET k, for k from 0 to the number of tokens fed");
+        EarleyChart chart = chart(p(0, 100, 0), p(0));
+        String[] whenLast = new String[9];
+        for (int k = 0; k <= 8; k++) {
+            whenLast[k] = items(chart, k);
+            if (k < 8) {
+                chart.feed(100);
+            }
+        }
+        report("set 0", whenLast[0], "[0, 1000]");
+        report("set 2", whenLast[2], "[2, 101, 200, 201, 1002]");
+        for (int k = 0; k <= 8; k++) {
+            report("set " + k + " when all are fed", items(chart, k), whenLast[k]);
+        }
+        dueThrow("set 9", () -> chart.items(9), INDEX);
+    }
+
+    private static void leastSet() {
+        promise("Terms, the least set: no item that only stands for itself");
+        dueItems(chart(p(0, 0)), 0, 0);
+        dueItems(chart(p(0, 1), p(1, 0)), 0, 0, 1000);
+        dueItems(chart(p(0, 1, 100), p(1, 1), p(2)), 0, 0, 1000);
+        dueItems(feedAll(chart(p(0, 100, 1), p(1, 1)), 100), 1, 100, 1001);
+        dueItems(feedAll(chart(p(0, 0, 0), p(0, 100)), 100), 1, 1, 100, 1001, 1100);
+    }
+
     private static void firstSet() {
         promise("Terms, in set 0 is each production of the start's variable");
         dueItems(chart(p(2, 100), p(3, 101), p(2, 102), p(2)), 0, 0, 2000, 3000);
@@ -431,6 +462,15 @@ public final class EarleyChartLimitsTest extends ChartChecks {
         due("just enough", () -> feedAll(chart(p(0, 100)), 100, 100).steps(0, 1, 2), 1);
     }
 
+    private static void witnessOfTheStart() {
+        promise("Terms, WITNESS: that of the start over all of the input");
+        dueWitness(feedAll(chart(p(3, 100, 1), p(1), p(0, 100)), 100), 0, 1);
+        EarleyChart chart = chart(p(0, 0, 100), p(0, 100));
+        dueWitness(feedAll(chart, 100), 1);
+        dueWitness(feedAll(chart, 100), 0, 1);
+        dueWitness(feedAll(chart, 100), 0, 0, 1);
+    }
+
     private static void lowestProduction() {
         promise("Terms, WITNESS: the lowest production whose right side has one step less");
         dueWitness(chart(p(0), p(0)), 0);
@@ -441,6 +481,13 @@ public final class EarleyChartLimitsTest extends ChartChecks {
         // Production 0 has fewer steps over nothing, but the whole input is over a token.
         dueWitness(feedAll(chart(p(0), p(0, 1), p(0, 100), p(1, 100)), 100), 2);
         dueWitness(feedAll(chart(p(0, 100), p(0, 101), p(0, 101)), 101), 1);
+    }
+
+    private static void witnessOrder() {
+        promise("Terms, WITNESS: then those of its right side's symbols, from the first on");
+        dueWitness(chart(p(0, 1, 2, 1, 3), p(1, 2), p(2), p(3)), 0, 1, 2, 2, 1, 2, 3);
+        dueWitness(chart(p(0, 3, 1, 2, 1), p(1, 2), p(2), p(3)), 0, 3, 1, 2, 2, 1, 2);
+        dueWitness(feedAll(chart(p(0, 2, 100, 1), p(1, 102), p(2, 101)), 101, 100, 102), 0, 2, 1);
     }
 
     private static void shortestStretch() {
